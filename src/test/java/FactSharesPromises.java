@@ -31,6 +31,7 @@ public final class FactSharesPromises {
         actsOfTwo();
         actsOfTheRow();
         refusals();
+        eachShareBeginsEmpty();
         severalRefusals();
         promise = 4;
         factsAreSet();
@@ -42,6 +43,7 @@ public final class FactSharesPromises {
         workersAreLost();
         lostShareStandsInFront();
         lostShareBeginsAnew();
+        workersComeAgain();
         loseEdges();
         promise = 8;
         seeds();
@@ -57,6 +59,7 @@ public final class FactSharesPromises {
         spoiltRuns();
         promise = 11;
         toldOfRuns();
+        turnsWithoutShare();
         promise = 12;
         doers();
         promise = 13;
@@ -215,6 +218,7 @@ public final class FactSharesPromises {
         answerIs(-5, 12, PUT, 4, 5, FACT, 0, 0, LESS, 0, 0);
         answerIs(4, 9, FACT, 0, 0, PUT, 4, 15, MEET, 0, 0);
         answerIs(-7, -7, FACT, 0, 0, PUT, -20, -7, MEET, 0, 0);
+        answerIs(9, 9, FACT, 0, 0, PUT, 9, 20, MEET, 0, 0);
         answerIs(5, 6, PUT, 5, 6, FACT, 0, 0, MEET, 0, 0);
         answerIs(-7, 30, FACT, 0, 0, PUT, 20, 30, HULL, 0, 0);
         answerIs(-30, 9, FACT, 0, 0, PUT, -30, -20, HULL, 0, 0);
@@ -268,6 +272,22 @@ public final class FactSharesPromises {
         refusalIs(SIZE, 4, PUT, 3, 4, PUT, 1, 2, MEET, 0, 0);
         // What stands behind the refused act is not done.
         refusalIs(ZERO, 3, PUT, 1, 1, BY, 0, 0, PUT, 2, 1, PUT, 1, 1);
+    }
+
+    /** The stack and the row of the share before are not there any more. */
+    private static void eachShareBeginsEmpty() {
+        FactShares x = new FactShares();
+        shareOf(x, 0, PUT, 1, 1, PUT, 2, 2, KEEP, 0, 0);
+        shareOf(x, 1, TAKE, 0, 0);
+        due("run(1)", x.run(1), 2);
+        due("told(1)", x.told(1), 1);
+        due("told(2)", x.told(2), NOTHING);
+        x = new FactShares();
+        shareOf(x, 0, PUT, 1, 1, PUT, 2, 2);
+        shareOf(x, 1, BY, 1, 0);
+        due("run(1)", x.run(1), 2);
+        due("told(1)", x.told(1), 1);
+        due("told(2)", x.told(2), INDEX);
     }
 
     private static void severalRefusals() {
@@ -393,6 +413,19 @@ public final class FactSharesPromises {
         due("told(3)", x.told(3), 3);
         due("told(6)", x.told(6), 7);
         factIs(x, 0, 3, 3);
+    }
+
+    /** A worker that comes again has nothing of the share that it was lost with. */
+    private static void workersComeAgain() {
+        FactShares x = new FactShares();
+        shareOf(x, 0, PUT, 1, 1, PUT, 2, 2);
+        x.lose(0, 3);
+        due("run(1)", x.run(1), 3);
+        due("workers(1)", x.workers(1), 0);
+        due("run(1)", x.run(1), 1);
+        due("told(4)", x.told(4), 1);
+        due("told(5)", x.told(5), 1);
+        due("told(6)", x.told(6), 6);
     }
 
     private static void loseEdges() {
@@ -603,7 +636,6 @@ public final class FactSharesPromises {
         // What was joined ahead of the closed round stays.
         x = counting();
         x.lose(0, 10);
-        x.set(20, 0);
         x.set(20, 6);
         due("run(5)", x.run(5), 3);
         factIs(x, 0, 0, 2);
@@ -693,6 +725,22 @@ public final class FactSharesPromises {
         due("told(5)", x.told(5), 2);
         due("doer(0)", x.doer(0), 0);
         due("doer(1)", x.doer(1), 1);
+    }
+
+    /** Ten shares of four workers: some have turns when nobody waits in the line. */
+    private static void turnsWithoutShare() {
+        FactShares x = new FactShares();
+        x.workers(4);
+        for (int i = 0; i < 10; i++) {
+            shareOf(x, i, PUT, 1, 1, BY, 1, 0, BY, 1, 0, BY, 1, 0, BY, 1, 0, BY, 1, 0, BY, 1, 0, POINT, 0, 0);
+        }
+        due("run(2)", x.run(2), 0);
+        due("told(3)", x.told(3), 160);
+        due("told(4)", x.told(4), 20);
+        due("told(5)", x.told(5), 20);
+        if (x.told(6) <= 180) {
+            due("told(6), beyond all that take and do", x.told(6), 181);
+        }
     }
 
     private static void doers() {
