@@ -670,7 +670,7 @@ public final class FactSharesSentences {
         x.lose(0, 1);
         due("run(1)", x.run(1), CLOSED);
         toldIs(x, 4, 0, 0, 1, 0);
-        // Two acts are done in vain (turns of two: 0 0 0 1 0): worker 1 takes it and does all three.
+        // Turns of two: 0 0 0, the third of which loses worker 0 behind one act; worker 1 takes it and does all three.
         x = oneShare(PUT, 1, 1, PUT, 2, 2, PUT, 3, 3);
         x.workers(2);
         x.lose(0, 3);
@@ -929,14 +929,12 @@ public final class FactSharesSentences {
         for (int widen = 1; widen <= 10; widen++) {
             for (int rounds = 1; rounds <= 10; rounds++) {
                 FactShares x = new FactShares();
-                x.fact(0, 0, 1);
-                x.fact(1, -MILLION, MILLION);
-                // Fact 2 is above 20 by as many rounds as there were ahead: 100 tells that it was widened.
-                x.fact(2, 20, 20);
-                shareOf(x, 2, FACT, 2, 0, PUT, 1, 1, ADD, 0, 0);
+                // HIGH is above 20 by as many rounds as there were, up to the first that widens it to 100.
+                x.fact(0, 20, 20);
+                shareOf(x, 0, FACT, 0, 0, PUT, 1, 1, ADD, 0, 0);
                 x.set(widen, 1000);
                 x.run(rounds);
-                due("end(2, 1), widen " + widen + ", round " + rounds, x.end(2, 1), widenedAt(rounds - widen, rounds));
+                due("end(0, 1), widen " + widen + ", round " + rounds, x.end(0, 1), widenedAt(rounds - widen, rounds));
             }
         }
         // Each run counts from 1 anew.
@@ -1703,7 +1701,7 @@ public final class FactSharesSentences {
         doersAre(x, 0, NONE);
         due("run(1)", x.run(1), CLOSED);
         doersAre(x, NONE, NONE);
-        // The second round of a run, not the first: turns of two: 0 0 0 1 0, 1 takes it and 0 finds none, 1 1 does.
+        // Turns of two: 0 0 0 1 0 in the first round, 1 1 1 0 0 1 in the second, whether of one run or of two.
         x = counting();
         x.workers(2);
         x.set(20, 1000);
@@ -1764,7 +1762,7 @@ public final class FactSharesSentences {
         x.clear();
         toldIs(x, 6, 0, 2, 1);
         due("lose(0, 1)", x.lose(0, 1), UNKNOWN);
-        // Turns are counted anew: 1 1 1 take and do, 1 again; worker 2 is lost at turn 4, then 1 does the second round.
+        // Turns are counted anew: 1 takes, 1 does; in the second round 1 takes, 2 is lost at turn 4, 1 does.
         due("run(2)", x.run(2), UNCHANGED);
         toldIs(x, 6, 5, 1, 1, 1);
         factIs(x, 5, 7, 7);
