@@ -43,11 +43,18 @@ public final class FactSharesFace {
         }
         for (Field f : FactShares.class.getDeclaredFields()) {
             note(f, f.getName(), seen, privates);
+            // Rule 5: no static state.
+            if (Modifier.isStatic(f.getModifiers()) && !Modifier.isFinal(f.getModifiers())) {
+                tell("static and not final: " + f.getName());
+            }
+            if (Modifier.isPublic(f.getModifiers()) && f.getType() != int.class) {
+                tell(f.getName() + " is no int");
+            }
         }
         for (Method m : FactShares.class.getDeclaredMethods()) {
             note(m, m.getName() + "/" + m.getParameterCount(), seen, privates);
-            if (Modifier.isPublic(m.getModifiers()) && m.getReturnType() != int.class) {
-                tell(m.getName() + " answers no int");
+            if (Modifier.isPublic(m.getModifiers())) {
+                testMethod(m);
             }
         }
         TreeSet<String> due = new TreeSet<>(List.of(FACE.split(" ")));
@@ -67,6 +74,17 @@ public final class FactSharesFace {
         for (Class<?> inside : FactShares.class.getDeclaredClasses()) {
             if (!Modifier.isStatic(inside.getModifiers())) {
                 tell("not static: " + inside);
+            }
+        }
+    }
+
+    private static void testMethod(Method m) {
+        if (m.getReturnType() != int.class || Modifier.isStatic(m.getModifiers())) {
+            tell(m.getName() + " answers no int, or is static");
+        }
+        for (Class<?> type : m.getParameterTypes()) {
+            if (type != int.class) {
+                tell(m.getName() + " takes a " + type);
             }
         }
     }

@@ -174,6 +174,28 @@ public final class FactSharesSentences {
         }
     }
 
+    @Says(in = "What it is", value = "joined in one order, widened, done anew when a worker is lost, told when the machine refuses one")
+    static void whatItIs() {
+        for (int i = 0; i < 100; i++) {
+            FactShares x = new FactShares();
+            x.set(1, 1000);
+            shareOf(x, 0, PUT, 15, 15, POINT, 0, 0, POINT, 0, 0);
+            shareOf(x, 0, PUT, 10, 20);
+            shareOf(x, 1, FACT, 2, 0, POINT, 0, 0);
+            x.fact(2, 8, 8);
+            x.workers(3);
+            x.seed(i * 7919);
+            x.lose(i % 3, 1 + i % 7);
+            // Share 1 may be done ahead of share 0; joined ahead of it, fact 0 would be 10 .. 20.
+            due("run(1), seed " + i * 7919, x.run(1), SO_MANY);
+            factIs(x, 0, 10, 100);
+            factIs(x, 1, 8, 8);
+            x.fact(2, 8, 9);
+            due("run(1), seed " + i * 7919, x.run(1), SPOILT);
+            toldIs(x, 1, 2, CAST);
+        }
+    }
+
     @Says(in = "The public face", value = "NONE = -2000000, UNKNOWN = -2000001, OUTSIDE = -2000002, ROOM = -2000003")
     static void constants() {
         due("NONE", NONE, -2000000);
@@ -204,6 +226,17 @@ public final class FactSharesSentences {
         for (int f = 0; f < 10; f++) {
             factIs(new FactShares(), f, NONE, NONE);
             refusalIs(NOTHING, FACT, f, 0);
+        }
+    }
+
+    @Says(in = "Terms", value = "FACTS 0 .. 9 are NOTHING at first, or a RANGE LOW .. HIGH")
+    static void factsAreRanges() {
+        FactShares x = new FactShares();
+        for (int f = 0; f < 10; f++) {
+            x.fact(f, -f, 2 * f);
+            for (int other = 0; other < 10; other++) {
+                factIs(x, other, other <= f ? -other : NONE, other <= f ? 2 * other : NONE);
+            }
         }
     }
 
@@ -270,6 +303,17 @@ public final class FactSharesSentences {
         factIs(x, 9, 15, 15);
         due("told(3)", x.told(3), 8);
         due("told(6)", x.told(6), 9);
+    }
+
+    @Says(in = "Terms 1", value = "ACTS, each with numbers a, b.")
+    static void numbersOfEachAct() {
+        FactShares x = new FactShares();
+        shareOf(x, 0, PUT, 1, 2, PUT, 30, 40, ADD, 0, 0, BY, 2, 0, BY, -3, 0, PUT, -1000, 500, MEET, 0, 0);
+        shareOf(x, 1, PUT, 5, 6, KEEP, 2, 0, PUT, 7, 9, KEEP, 0, 0, TAKE, 2, 0, TAKE, 0, 0, LESS, 0, 0);
+        due("run(1)", x.run(1), SO_MANY);
+        // 31 .. 42, then 15 .. 21, then -7 .. -5; and 5 .. 6 less 7 .. 9.
+        factIs(x, 0, -7, -5);
+        factIs(x, 1, -4, -1);
     }
 
     @Says(in = "Terms 1", value = "A SHARE is worked on a STACK of 3 places")
@@ -729,6 +773,20 @@ public final class FactSharesSentences {
         due("told(9)", x.told(9), 0);
         doersAre(x, 0);
         factIs(x, 9, 3, 3);
+    }
+
+    @Says(in = "Terms 2", value = "with one it does its next ACT;")
+    static void nextAct() {
+        // Turns of two: 0 0 0 1 0 1 1 1 0. Worker 0 does share 0 at turns 1 2 3 5 9, worker 1 share 1 at turns 4 6 7 8.
+        FactShares x = new FactShares();
+        shareOf(x, 0, PUT, 1, 1, PUT, 2, 2, LESS, 0, 0, BY, -1, 0);
+        shareOf(x, 1, PUT, 5, 5, PUT, 7, 9, LESS, 0, 0);
+        x.workers(2);
+        due("run(1)", x.run(1), SO_MANY);
+        factIs(x, 0, 1, 1);
+        factIs(x, 1, -4, -2);
+        doersAre(x, 0, 1);
+        toldIs(x, 4, 2, 2, 9, 2, 2, 0);
     }
 
     @Says(in = "Terms 2", value = "the last ACT (or that by which it is SPOILT) ends it in the same TURN: it is DONE, and the WORKER has none.")
